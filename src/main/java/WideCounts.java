@@ -240,7 +240,7 @@ public final class WideCounts {
         }
 
         private void finish(int top, boolean sign) {
-            length = Math.min(top, limbs.length);
+            length = top;
             while (length > 0 && limbs[length - 1] == 0) {
                 length--;
             }
@@ -452,9 +452,8 @@ public final class WideCounts {
                 rest[at + i] = (int) (carry & LIMB_MASK);
                 carry >>= LIMB_BITS;
             }
-            carry += rest[at + size];
-            rest[at + size] = (int) (carry & LIMB_MASK);
-            return carry >= 0;
+            // The limb on top is not written back: no later step looks at it.
+            return carry + rest[at + size] >= 0;
         }
 
         private void giveBack(int at, int size) {
@@ -464,7 +463,6 @@ public final class WideCounts {
                 rest[at + i] = carry & LIMB_MASK;
                 carry >>= LIMB_BITS;
             }
-            rest[at + size] = rest[at + size] + carry & LIMB_MASK;
         }
     }
 

@@ -21,6 +21,7 @@ public final class PromisesTest {
         powerOfNoughtAndOnes();
         binomial();
         binomialAtTheWidth();
+        binomialTooWideForLong();
         factorial();
         order();
         digit();
@@ -196,6 +197,8 @@ public final class PromisesTest {
             int above = x.times(x.add(two, x.value(1)), x.value(-1));
             TALLY.makes("2^1600 - 1 over -(2^" + bit + " + 1)", x, () -> x.over(wide, above), most.divide(power.add(BigInteger.ONE).negate()));
             TALLY.makes("the less over the greater", x, () -> x.over(below, two), BigInteger.ZERO);
+            int seven = x.value(-7);
+            TALLY.makes("-7 over 2^1600 - 1", x, () -> x.over(seven, wide), BigInteger.ZERO);
             TALLY.makes("a number over itself", x, () -> x.over(above, above), BigInteger.ONE);
         }
     }
@@ -329,6 +332,15 @@ public final class PromisesTest {
             TALLY.makes("binomial(" + n + ", 0)", x, () -> x.binomial(n, 0), BigInteger.ONE);
             TALLY.makes("binomial(" + n + ", all)", x, () -> x.binomial(n, n), BigInteger.ONE);
             TALLY.makes("binomial(" + n + ", more)", x, () -> x.binomial(n, n + 1), BigInteger.ZERO);
+        }
+    }
+
+    /** What was TOO WIDE on the way would fit again here, if its highest bits were lost. */
+    private static void binomialTooWideForLong() {
+        int[][] pairs = {{3_950, 1_059}, {3_932, 1_706}, {3_777, 1_741}, {3_777, 1_747}, {4_000, 2_000}};
+        WideCounts x = new WideCounts();
+        for (int[] pair : pairs) {
+            TALLY.makesNothing("binomial(" + pair[0] + ", " + pair[1] + ")", x, () -> x.binomial(pair[0], pair[1]));
         }
     }
 

@@ -26,8 +26,14 @@ final class Tally {
         try {
             return new Answer(call.getAsLong(), null);
         } catch (RuntimeException e) {
-            return new Answer(0, e.getClass());
+            return new Answer(0, thrownByTheMachine(e) ? VirtualMachineError.class : e.getClass());
         }
+    }
+
+    /** The machine's own exceptions are of the very classes that the document names: only their texts tell. */
+    private static boolean thrownByTheMachine(RuntimeException e) {
+        String text = e.getMessage();
+        return text != null && (text.startsWith("Index ") || text.equals("/ by zero") || text.startsWith("Array index"));
     }
 
     void same(String call, Answer got, Answer want) {
