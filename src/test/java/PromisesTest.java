@@ -2,7 +2,7 @@ import java.math.BigInteger;
 
 /** The promises one by one: ordinary inputs, the edges that the document names, wrong inputs. */
 public final class PromisesTest {
-    private static final BigInteger WIDEST = Model.TOO_WIDE.subtract(BigInteger.ONE);
+    private static final BigInteger WIDEST = Made.WIDEST;
     private static final int[] UNKNOWN = {-1, Integer.MIN_VALUE, Integer.MAX_VALUE, 160, 8_192};
 
     private static final Tally TALLY = new Tally("PromisesTest");
@@ -41,18 +41,6 @@ public final class PromisesTest {
 
     private static BigInteger big(long v) {
         return BigInteger.valueOf(v);
-    }
-
-    /** Makes 2^n as a number and answers its handle. */
-    private static int twoTo(WideCounts x, int n) {
-        return x.power(x.value(2), n);
-    }
-
-    /** Makes 2^1600 - 1 and answers its handle. */
-    private static int widest(WideCounts x) {
-        int half = twoTo(x, 1599);
-        int belowHalf = x.add(half, x.value(-1));
-        return x.add(half, belowHalf);
     }
 
     // Promise 1
@@ -105,7 +93,7 @@ public final class PromisesTest {
         WideCounts x = new WideCounts();
         int one = x.value(1);
         int minusOne = x.value(-1);
-        int most = widest(x);
+        int most = Made.widest(x);
         TALLY.holds("2^1600 - 1", x, most, WIDEST);
         TALLY.makesNothing("2^1600 - 1 + 1", x, () -> x.add(most, one));
         TALLY.makesNothing("2^1600 - 1 twice", x, () -> x.add(most, most));
@@ -140,9 +128,9 @@ public final class PromisesTest {
 
     private static void timesAtTheWidth() {
         WideCounts x = new WideCounts();
-        int low = twoTo(x, 799);
-        int middle = twoTo(x, 800);
-        int high = twoTo(x, 801);
+        int low = Made.twoTo(x, 799);
+        int middle = Made.twoTo(x, 800);
+        int high = Made.twoTo(x, 801);
         TALLY.makes("2^799 * 2^800", x, () -> x.times(low, middle), BigInteger.TWO.pow(1599));
         TALLY.makesNothing("2^800 * 2^800", x, () -> x.times(middle, middle));
         TALLY.makesNothing("2^799 * 2^801", x, () -> x.times(low, high));
@@ -152,7 +140,7 @@ public final class PromisesTest {
         int minus = x.times(below, x.value(-1));
         TALLY.makes("(1 - 2^800) * (2^800 + 1)", x, () -> x.times(minus, above), WIDEST.negate());
         TALLY.makesNothing("(2^800 + 1) squared", x, () -> x.times(above, above));
-        int most = widest(x);
+        int most = Made.widest(x);
         TALLY.makesNothing("2^1600 - 1 squared", x, () -> x.times(most, most));
         int two = x.value(2);
         TALLY.makesNothing("2^1600 - 1 doubled", x, () -> x.times(most, two));
@@ -188,8 +176,8 @@ public final class PromisesTest {
         for (int bit : bits) {
             WideCounts x = new WideCounts();
             BigInteger most = WIDEST;
-            int wide = widest(x);
-            int two = twoTo(x, bit);
+            int wide = Made.widest(x);
+            int two = Made.twoTo(x, bit);
             BigInteger power = BigInteger.TWO.pow(bit);
             TALLY.makes("2^1600 - 1 over 2^" + bit, x, () -> x.over(wide, two), most.divide(power));
             int below = x.add(two, x.value(-1));
@@ -221,23 +209,12 @@ public final class PromisesTest {
             for (BigInteger divisor : divisors) {
                 for (BigInteger dividend : dividends) {
                     WideCounts x = new WideCounts();
-                    int first = write(x, dividend);
-                    int second = write(x, divisor);
+                    int first = Made.write(x, dividend);
+                    int second = Made.write(x, divisor);
                     TALLY.makes(dividend + " over " + divisor, x, () -> x.over(first, second), dividend.divide(divisor));
                 }
             }
         }
-    }
-
-    /** Makes any number from parts of 32 bits and answers its handle. */
-    private static int write(WideCounts x, BigInteger number) {
-        int base = x.value(1L << 32);
-        int handle = x.value(0);
-        for (int at = number.bitLength() / 32; at >= 0; at--) {
-            long part = number.shiftRight(32 * at).longValue() & 0xFFFF_FFFFL;
-            handle = x.add(x.times(handle, base), x.value(part));
-        }
-        return handle;
     }
 
     // Promise 6
@@ -256,7 +233,7 @@ public final class PromisesTest {
         TALLY.makes("(-3)^4", x, () -> x.power(minusThree, 4), big(81));
         TALLY.makes("(-3)^1009", x, () -> x.power(minusThree, 1009), big(-3).pow(1009));
         TALLY.makesNothing("(-3)^1010", x, () -> x.power(minusThree, 1010));
-        int most = widest(x);
+        int most = Made.widest(x);
         TALLY.makes("(2^1600 - 1)^1", x, () -> x.power(most, 1), WIDEST);
         TALLY.makesNothing("(2^1600 - 1)^2", x, () -> x.power(most, 2));
         TALLY.makesNothing("2^-1", x, () -> x.power(two, -1));
@@ -366,7 +343,7 @@ public final class PromisesTest {
 
     private static void order() {
         WideCounts x = new WideCounts();
-        int most = widest(x);
+        int most = Made.widest(x);
         int least = x.times(most, x.value(-1));
         int great = x.add(most, x.value(-1));
         int minusGreat = x.times(great, x.value(-1));
@@ -413,7 +390,7 @@ public final class PromisesTest {
 
     private static void digitsOfTheWidest() {
         WideCounts x = new WideCounts();
-        int most = widest(x);
+        int most = Made.widest(x);
         String digits = WIDEST.toString();
         for (int i = 0; i < digits.length(); i++) {
             int at = i;
@@ -558,7 +535,7 @@ public final class PromisesTest {
             TALLY.due("kept() after residues", x::kept, 1);
         }
         WideCounts x = new WideCounts();
-        int most = widest(x);
+        int most = Made.widest(x);
         int least = x.times(most, x.value(-1));
         for (long modulus : moduli) {
             BigInteger amount = big(modulus).abs();

@@ -15,6 +15,7 @@ final class Tally {
     private static final long[] PRIMES = primesBelowTwoTo63(26);
 
     private final String name;
+    private String sentence = "";
     private int asked = 0;
     private int wrong = 0;
 
@@ -36,11 +37,20 @@ final class Tally {
         return text != null && (text.startsWith("Index ") || text.equals("/ by zero") || text.startsWith("Array index"));
     }
 
+    /** A test that stands for one sentence of the document: what goes wrong in it is told with the sentence. */
+    void sentence(String words, Runnable test) {
+        int before = asked;
+        sentence = "\"" + words + "\": ";
+        test.run();
+        truth("asks something", asked > before, true);
+        sentence = "";
+    }
+
     void same(String call, Answer got, Answer want) {
         asked++;
         if (!got.equals(want)) {
             wrong++;
-            System.out.println(name + ": " + call + " answered " + got + ", due is " + want);
+            System.out.println(name + ": " + sentence + call + " answered " + got + ", due is " + want);
         }
     }
 
