@@ -67,8 +67,8 @@ public final class AskingBoundariesTest {
         }
         for (int free = 0; free < 12; free++) {
             WideCounts y = new WideCounts();
-            for (int i = 0; i < 12; i++) {
-                y.entry(i, i, i == free ? 0 : 3);
+            for (int step = 1; step < 12; step++) {
+                y.entry((free + step) % 12, (free + step) % 12, 3);
             }
             TALLY.makes("determinant(12) with all but " + free, y, () -> y.determinant(12), BigInteger.ZERO);
             y.entry(free, free, 3);
@@ -228,20 +228,19 @@ public final class AskingBoundariesTest {
         everyEntryIsItsOwn();
     }
 
-    /** With 1 in each other row and column once, a determinant is its entry or the opposite of it. */
     private static void everyEntryIsItsOwn() {
-        for (int i = 0; i < 12; i++) {
-            for (int j = 0; j < 12; j++) {
-                WideCounts x = new WideCounts();
-                long[][] table = new long[12][12];
-                for (int step = 0; step < 12; step++) {
-                    int row = (i + step) % 12;
-                    int column = (j + step) % 12;
-                    table[row][column] = step == 0 ? 100 + 12 * i + j : 1;
-                    TALLY.truth("entry(" + row + ", " + column + ")", x.entry(row, column, table[row][column]), true);
-                }
-                TALLY.makes("determinant(12) with entry " + i + ", " + j, x, () -> x.determinant(12), Model.determinantOf(table, 12));
-            }
+        BigInteger before = Model.determinantOf(Made.sensitiveTable(), 12);
+        for (int at = 0; at < 144; at++) {
+            WideCounts x = new WideCounts();
+            long[][] table = Made.sensitiveTable();
+            Made.enter(x, table);
+            int i = at / 12;
+            int j = at % 12;
+            table[i][j] += 1 + at;
+            TALLY.truth("entry(" + i + ", " + j + ", " + table[i][j] + ")", x.entry(i, j, table[i][j]), true);
+            BigInteger after = Model.determinantOf(table, 12);
+            TALLY.truth("entry(" + i + ", " + j + ") counts", after.equals(before), false);
+            TALLY.makes("determinant(12) after it", x, () -> x.determinant(12), after);
         }
     }
 

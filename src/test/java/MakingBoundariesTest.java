@@ -51,6 +51,8 @@ public final class MakingBoundariesTest {
         int one = x.value(1);
         TALLY.due(what + " against 0", () -> x.order(handle, nought), 0);
         TALLY.due("0 against " + what, () -> x.order(nought, handle), 0);
+        int difference = x.add(x.value(4), x.value(-4));
+        TALLY.due(what + " against 4 - 4", () -> x.order(handle, difference), 0);
         TALLY.due("digit 0 of " + what, () -> x.digit(handle, 0), 0);
         TALLY.noSuchIndex("digit 1 of " + what, () -> x.digit(handle, 1));
         TALLY.noSuchQuotient("1 over " + what, () -> x.over(one, handle));
@@ -430,15 +432,25 @@ public final class MakingBoundariesTest {
         none.entry(3, 4, Long.MIN_VALUE);
         TALLY.makes("determinant(12) of one entry", none, () -> none.determinant(12), BigInteger.ZERO);
         isNought("determinant(12) of one entry", none, 0);
-        WideCounts x = new WideCounts();
-        for (int i = 0; i < 12; i++) {
-            x.entry(i, 11 - i, Long.MIN_VALUE);
+        for (int size = 1; size <= 12; size++) {
+            determinantFromCornerToCorner(size);
         }
-        TALLY.makes("determinant(12) of -2^63 from corner to corner", x, () -> x.determinant(12), twoTo(63 * 12));
-        x.entry(0, 11, Long.MAX_VALUE);
-        BigInteger less = big(Long.MAX_VALUE).multiply(twoTo(63 * 11)).negate();
-        TALLY.makes("determinant(12) with one of 2^63 - 1", x, () -> x.determinant(12), less);
-        TALLY.makes("determinant(11) without that one", x, () -> x.determinant(11), BigInteger.ZERO);
+    }
+
+    /** The corners that are turned: rows change their places, and every other time so does the sign. */
+    private static void determinantFromCornerToCorner(int size) {
+        WideCounts x = new WideCounts();
+        for (int i = 0; i < size; i++) {
+            x.entry(i, size - 1 - i, Long.MIN_VALUE);
+        }
+        BigInteger amount = big(Long.MIN_VALUE).pow(size - 1);
+        BigInteger cofactor = size / 2 % 2 == 0 ? amount : amount.negate();
+        TALLY.makes("determinant(" + size + ") of -2^63", x, () -> x.determinant(size), cofactor.multiply(big(Long.MIN_VALUE)));
+        x.entry(0, size - 1, Long.MAX_VALUE);
+        TALLY.makes("determinant(" + size + ") with one of 2^63 - 1", x, () -> x.determinant(size), cofactor.multiply(big(Long.MAX_VALUE)));
+        if (size < 12) {
+            TALLY.makes("determinant(" + (size + 1) + ") with nothing more", x, () -> x.determinant(size + 1), BigInteger.ZERO);
+        }
     }
 
     private static void determinantOfNoRows() {

@@ -126,7 +126,10 @@ public final class TermsBoundariesTest {
             x.power(a, 1);
             x.power(a, 1_000);
             x.digit(a, 0);
+            Tally.answerOf(() -> x.digit(a, 1));
+            Tally.answerOf(() -> x.digit(a, 481));
             x.residue(a, -12);
+            Tally.answerOf(() -> x.residue(a, 0));
         }
         x.entry(0, 0, 8);
         x.determinant(12);
