@@ -42,7 +42,31 @@ public final class FaceTest {
         }
         int modifiers = WideCounts.class.getModifiers();
         tally.truth("the class is public and final", Modifier.isPublic(modifiers) && Modifier.isFinal(modifiers), true);
+        classesInside(tally);
+        privateNames(tally);
         tally.end();
+    }
+
+    private static void classesInside(Tally tally) {
+        for (Class<?> inside : WideCounts.class.getDeclaredClasses()) {
+            int modifiers = inside.getModifiers();
+            boolean hidden = !Modifier.isPublic(modifiers) && !Modifier.isProtected(modifiers);
+            tally.truth(inside.getName() + " is static and not for others", hidden && Modifier.isStatic(modifiers), true);
+        }
+    }
+
+    private static void privateNames(Tally tally) {
+        TreeSet<String> open = new TreeSet<>();
+        for (Method method : WideCounts.class.getDeclaredMethods()) {
+            if (Modifier.isPublic(method.getModifiers())) {
+                open.add(method.getName());
+            }
+        }
+        for (Method method : WideCounts.class.getDeclaredMethods()) {
+            if (Modifier.isPrivate(method.getModifiers())) {
+                tally.truth(method.getName() + " is the name of a public method too", open.contains(method.getName()), false);
+            }
+        }
     }
 
     private static List<Member> members() {
